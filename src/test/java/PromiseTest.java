@@ -1,3 +1,4 @@
+import java.lang.reflect.Field;
 import java.util.ArrayList;
 import java.util.List;
 import java.util.NoSuchElementException;
@@ -536,6 +537,9 @@ public final class PromiseTest {
         due(moves(0), "UDLRR");
         due(ferry.mirror(0, 0), 5);
         due(moves(0), "UDRLL");
+        put(4, "LR");
+        due(ferry.mirror(4, 4), 2);
+        due(moves(4), "RL");
         due(ferry.mirror(5, 0), 0);
         due(moves(0), "");
         wrongPlans(plan -> ferry.mirror(plan, 0));
@@ -614,6 +618,9 @@ public final class PromiseTest {
         due(ferry.areMirrored(0, 2), false);
         due(ferry.areMirrored(2, 0), false);
         due(ferry.areMirrored(4, 5), true);
+        put(4, "RU");
+        due(ferry.areMirrored(2, 4), false);
+        due(ferry.areMirrored(4, 4), false);
         wrongPlans(plan -> ferry.areMirrored(plan, 0));
         wrongPlans(plan -> ferry.areMirrored(0, plan));
     }
@@ -986,6 +993,7 @@ public final class PromiseTest {
         due(ferry.faresOf(0), 5);
         due(moves(0), "UUURR");
         due(ferry.landingCount(), 1);
+        thrown(STATE, () -> ferry.addLanding(5, 8));
         due(moves(3), "");
         due(moves(5), "L");
         due(ferry.undo(), 1);
@@ -1183,6 +1191,28 @@ public final class PromiseTest {
             ferry.undo();
         }
         due(view(ferry), before);
+        addToTotal(1);
+        due(ferry.isConsistent(), false);
+        addToTotal(-1);
+        due(ferry.isConsistent(), true);
+    }
+
+    /** No call can break an invariant, so a field is changed from outside. */
+    private static void addToTotal(int difference) {
+        try {
+            Object fleet = field(field(ferry, "marsh"), "fleet");
+            Field total = fleet.getClass().getDeclaredField("total");
+            total.setAccessible(true);
+            total.setInt(fleet, total.getInt(fleet) + difference);
+        } catch (ReflectiveOperationException e) {
+            due(e.toString(), "a field for the fare total");
+        }
+    }
+
+    private static Object field(Object owner, String name) throws ReflectiveOperationException {
+        Field field = owner.getClass().getDeclaredField(name);
+        field.setAccessible(true);
+        return field.get(owner);
     }
 
     private static void undo() {
