@@ -64,7 +64,7 @@ public final class BoundaryTest {
     private void readAll() throws IOException {
         List<Path> files;
         try (Stream<Path> found = Files.list(CASES)) {
-            files = found.sorted().collect(Collectors.toList());
+            files = found.filter(file -> file.toString().endsWith(".txt")).sorted().collect(Collectors.toList());
         }
         for (Path file : files) {
             int number = 0;
