@@ -15,13 +15,19 @@ import java.util.regex.Pattern;
 
 /** The face of MirrorFerry is the one that ../shared/DOC.md gives, and nothing else shows. */
 public final class FaceTest {
+    private static final Path DOCUMENT = Path.of("../shared/DOC.md");
+    private static final Path SOURCE = Path.of("src/main/java/MirrorFerry.java");
     private static final Pattern FACE = Pattern.compile("    public (\\w+ \\w+\\(.*\\)[^;]*);");
+    private static final Pattern SECTION = Pattern.compile("Ahead of the calls (.*) the interface says: ---- (.*)\\.");
+    private static final Pattern HEADING = Pattern.compile("    // ---- (.*)");
+    private static final Pattern CALL = Pattern.compile("    public \\w+ (\\w+)\\(.*");
 
     private static int wrong;
 
     public static void main(String[] args) throws Exception {
         due("modifiers", MirrorFerry.class.getModifiers(), Modifier.PUBLIC | Modifier.FINAL);
         due("methods", methodsOfClass(), methodsOfDocument());
+        due("sections", sectionsOfSource(), sectionsOfDocument());
         constructors();
         members();
         System.out.println(wrong == 0 ? "the face is that of the document" : "the face is not that of the document");
@@ -37,7 +43,7 @@ public final class FaceTest {
 
     private static Set<String> methodsOfDocument() throws Exception {
         Set<String> methods = new TreeSet<>();
-        for (String line : Files.readAllLines(Path.of("../shared/DOC.md"))) {
+        for (String line : Files.readAllLines(DOCUMENT)) {
             Matcher matcher = FACE.matcher(line);
             if (matcher.matches()) {
                 methods.add(matcher.group(1).replaceAll("(int|char) \\w+(?=[,)])", "$1"));
@@ -65,6 +71,45 @@ public final class FaceTest {
             names.add(type.getSimpleName());
         }
         return String.join(", ", names);
+    }
+
+    /** The headings that stand ahead of the calls, with the calls below them, both in their order. */
+    private static List<String> sectionsOfDocument() throws Exception {
+        List<String> sections = new ArrayList<>();
+        for (String line : Files.readAllLines(DOCUMENT)) {
+            Matcher matcher = SECTION.matcher(line);
+            if (matcher.matches()) {
+                sections.add(matcher.group(2) + ": " + matcher.group(1).replace("`", ""));
+            }
+        }
+        due("sections in the document", sections.isEmpty(), false);
+        return sections;
+    }
+
+    private static List<String> sectionsOfSource() throws Exception {
+        List<String> sections = new ArrayList<>();
+        String heading = "no heading";
+        List<String> calls = new ArrayList<>();
+        for (String line : Files.readAllLines(SOURCE)) {
+            Matcher next = HEADING.matcher(line);
+            Matcher call = CALL.matcher(line);
+            if (call.matches()) {
+                calls.add(call.group(1));
+            }
+            if (next.matches()) {
+                addSection(sections, heading, calls);
+                heading = next.group(1);
+                calls.clear();
+            }
+        }
+        addSection(sections, heading, calls);
+        return sections;
+    }
+
+    private static void addSection(List<String> sections, String heading, List<String> calls) {
+        if (!calls.isEmpty()) {
+            sections.add(heading + ": " + String.join(", ", calls));
+        }
     }
 
     private static void constructors() {
